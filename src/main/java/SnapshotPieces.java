@@ -289,6 +289,9 @@ public final class SnapshotPieces {
 
         /** The digests below a node, its own, and those above it, behind a change of values below it. */
         void renew(int node) {
+            if (!isNode(node)) {
+                return;
+            }
             int first = firstPath(node);
             int last = lastPath(node);
             for (int p = first; p <= last; p++) {

@@ -3,6 +3,9 @@ final class Checks {
     private static final long BY_X = 0x9E3779B97F4A7C15L;
     private static final long BY_Z = 0xBF58476D1CE4E5B9L;
 
+    /** With it d(SWAPS, 0) is d(0, SWAPS): the two may change places, and the digest above is the same. */
+    static final long SWAPS = (6583425L << 41) + 957198677437L;
+
     private int wrong = 0;
     private int seen = 0;
 
@@ -46,8 +49,18 @@ final class Checks {
         return r;
     }
 
+    /** The seed of a play whose first x this is. */
+    static long seedFor(long x) {
+        return (x - 1442695040888963407L) * inverse(6364136223846793005L);
+    }
+
     /** A value of a leaf that is not empty, but whose digest is 0. */
     static long valueOfDigestZero(int path) {
-        return yFor(path + 1, 0);
+        return valueOfDigest(path, 0);
+    }
+
+    /** The value with which a leaf has the digest. */
+    static long valueOfDigest(int path, long digest) {
+        return yFor(path + 1, digest);
     }
 }

@@ -5,6 +5,7 @@ import java.util.Random;
 public final class ModelTest {
     private static final int RUNS = 1500;
     private static final int CALLS = 280;
+    private static final int NEAR_THE_TOP = 195;
     private static final int[] EDGES = {Integer.MIN_VALUE, -2, -1, 0, 1, 2, 3, 4, 11, 12, 13, 62, 63, 64, 65,
         126, 127, 128, 199, 200, 201, 299, 300, 301, Integer.MAX_VALUE};
 
@@ -33,7 +34,7 @@ public final class ModelTest {
     }
 
     private void go() {
-        int leaves = chance.nextInt(40);
+        int leaves = chance.nextInt(12) == 0 ? NEAR_THE_TOP + chance.nextInt(12) : chance.nextInt(40);
         for (int i = 0; i < leaves; i++) {
             callLeaf();
         }

@@ -1,13 +1,5 @@
 /** Each promise of the document by hand: ordinary inputs, the edges that it names, and wrong inputs. */
-public final class PromisesTest {
-    private static final int HONEST = 0, TURNED = 1, SHORT = 2, OLD = 3, LAZY = 4;
-    private static final int REFUSED = 0, TAKEN = 1, NOTHING = 2;
-    private static final int BAD = -1, FULL = -2, NOT = -3;
-    private static final int HEIGHT = 0, GIVERS = 1, TARGET = 2, LACKS = 3, BYTES = 4, ASKS = 5, NAMED = 6,
-        FILLED = 7, KNOWN = 8;
-
-    private static final Checks checks = new Checks();
-
+public final class PromisesTest extends Bench {
     public static void main(String[] args) {
         newObject();
         leaf();
@@ -29,45 +21,20 @@ public final class PromisesTest {
         leafOfDigestZero();
         play();
         playStepByStep();
+        playByBits();
+        playPicksTheNode();
+        playPicksTheWhole();
+        playGoesOnWithX();
         playWrongly();
+        playEnds();
         missing();
         digestsThatMeet();
         heldAndMine();
         rot();
         cut();
         count();
-        refusalsChangeNothing();
+        countAtTheBounds();
         checks.end();
-    }
-
-    private static void due(String what, long got, long want) {
-        checks.due(what, got, want);
-    }
-
-    /** Digest of the node above two leaves that have these values. */
-    private static long above(int evenPath, long v, long w) {
-        long x = v == 0 ? 0 : Checks.d(evenPath + 1, v);
-        long y = w == 0 ? 0 : Checks.d(evenPath + 2, w);
-        return x == 0 && y == 0 ? 0 : Checks.d(x, y);
-    }
-
-    /** A source whose leaf p has p + 10 for p of 0 .. n - 1, at height n. */
-    private static SnapshotPieces filled(int n) {
-        SnapshotPieces s = new SnapshotPieces();
-        for (int p = 0; p < n; p++) {
-            s.leaf(p, p + 10);
-        }
-        return s;
-    }
-
-    /** Known down to node 4 and its neighbours, by an honest giver 0, at the highest height. */
-    private static SnapshotPieces openedToFour(int n) {
-        SnapshotPieces s = filled(n);
-        s.giver(HONEST, -1);
-        s.target(n);
-        s.ask(0, 1, false);
-        s.ask(0, 2, false);
-        return s;
     }
 
     private static void newObject() {
@@ -274,9 +241,7 @@ public final class PromisesTest {
 
     private static void askForPair() {
         SnapshotPieces s = filled(64);
-        for (int kind = HONEST; kind <= LAZY; kind++) {
-            s.giver(kind, -1);
-        }
+        giveAllKinds(s);
         s.target(64);
         due("9: turned pair", s.ask(TURNED, 1, false), REFUSED);
         due("9: short pair", s.ask(SHORT, 1, false), REFUSED);
@@ -302,9 +267,7 @@ public final class PromisesTest {
         SnapshotPieces s = new SnapshotPieces();
         s.leaf(0, 1);
         s.leaf(1, 6);
-        for (int kind = HONEST; kind <= LAZY; kind++) {
-            s.giver(kind, -1);
-        }
+        giveAllKinds(s);
         s.target(2);
         for (int node = 1; node <= 32; node *= 2) {
             s.ask(HONEST, node, false);
@@ -539,6 +502,114 @@ public final class PromisesTest {
         }
     }
 
+    /** The first x has these high 32 bits; the low ones are set, so that they would show. */
+    private static long seedOf(long high) {
+        return Checks.seedFor((high << 32) | 0xFFFFFFFFL);
+    }
+
+    /** Of twelve givers one alone gives something: 1 is taken if h chose it. */
+    private static void playByBits() {
+        long[] highs = {0, 11, 12, 0x7FFFFFFF, 0x80000000L, 0x8000000BL, 0x80000001L, 0xFFFFFFFFL};
+        int[] givers = {0, 11, 0, 7, 0, 11, 1, 7};
+        for (int i = 0; i < highs.length; i++) {
+            for (int honest = 0; honest < 12; honest++) {
+                SnapshotPieces s = filled(1);
+                for (int g = 0; g < 12; g++) {
+                    s.giver(HONEST, g == honest ? -1 : 0);
+                }
+                s.target(1);
+                String what = "10: the 31 bits behind the first: " + highs[i] + ", giver " + honest;
+                due(what, s.play(seedOf(highs[i]), 1), honest == givers[i] ? 1 : 0);
+            }
+        }
+    }
+
+    private static void playPicksTheNode() {
+        for (int k = 0; k < 64; k++) {
+            SnapshotPieces s = filled(64);
+            s.giver(HONEST, -1);
+            s.target(64);
+            for (int node = 1; node < 64; node++) {
+                s.ask(0, node, false);
+            }
+            due("10: h / 16 mod how many: taken", s.play(seedOf(16 * (k + 64 * 3) + 15), 1), 1);
+            due("10: h / 16 mod how many: " + k, s.held(k), k + 10);
+            due("10: h / 16 mod how many: one", s.count(FILLED), 1);
+        }
+    }
+
+    private static void playPicksTheWhole() {
+        long[] highs = {4095, 4096, 8191, 8192, 12288, 0x7FFFFFFF, 0x80000000L, 0x80001000L};
+        boolean[] wholes = {false, true, true, false, true, true, false, true};
+        for (int i = 0; i < highs.length; i++) {
+            SnapshotPieces s = filled(16);
+            s.giver(HONEST, -1);
+            s.target(16);
+            due("10: not a whole of node 1", s.play(seedOf(highs[i]), 1), 1);
+            due("10: two digests of node 1", s.count(BYTES), 16);
+            due("10: not a whole of node 2", s.play(seedOf(highs[i]), 1), 1);
+            due("10: two digests of node 2", s.count(BYTES), 32);
+            due("10: node 4", s.play(seedOf(highs[i]), 1), 1);
+            due("10: if h / 4096 is odd: " + highs[i], s.count(BYTES), 32 + (wholes[i] ? 4 + 16 * 12 : 16));
+        }
+        SnapshotPieces right = filled(64);
+        right.giver(HONEST, -1);
+        right.target(64);
+        right.ask(0, 1, false);
+        right.ask(0, 2, false);
+        right.ask(0, 4, true);
+        right.ask(0, 5, true);
+        due("10: node 3", right.play(seedOf(4096), 1), 1);
+        due("10: not a whole of node 3", right.count(KNOWN), 7);
+    }
+
+    /** x becomes another one ahead of each ask, also of one to which nothing came, and starts anew with a play. */
+    private static void playGoesOnWithX() {
+        long seed = 5;
+        SnapshotPieces once = filled(64);
+        SnapshotPieces twice = filled(64);
+        for (SnapshotPieces s : new SnapshotPieces[] {once, twice}) {
+            s.giver(HONEST, 0);
+            s.giver(LAZY, -1);
+            s.giver(TURNED, -1);
+            s.giver(HONEST, -1);
+            s.target(64);
+        }
+        int taken = once.play(seed, 200);
+        long x = seed;
+        int sum = 0;
+        for (int i = 0; i < 200; i++) {
+            sum += twice.play(x, 1);
+            x = x * 6364136223846793005L + 1442695040888963407L;
+        }
+        due("10: one by one", sum, taken);
+        for (int what = 0; what < 9; what++) {
+            due("10: one by one, count(" + what + ")", twice.count(what), once.count(what));
+        }
+        due("10: one by one, mine(1)", twice.mine(1), once.mine(1));
+    }
+
+    private static void playEnds() {
+        SnapshotPieces s = filled(64);
+        s.target(64);
+        due("10: as long as there are GIVERS", s.play(1, 300), 0);
+        due("10: no asks without them", s.count(ASKS), 0);
+        s.giver(HONEST, 63);
+        due("10: 300 asks", s.play(1, 300), 0);
+        due("10: 300 asks, counted", s.count(ASKS), 300);
+        due("10: 1 ask", s.play(1, 1), 0);
+        due("10: 1 ask, counted", s.count(ASKS), 301);
+        s.giver(HONEST, -1);
+        due("10: until nothing is missing", s.play(1, 300) > 0 ? 1 : 0, 1);
+        due("10: joined", s.joined(), 1);
+        int asks = s.count(ASKS);
+        due("10: nothing is missing", s.play(1, 300), 0);
+        due("10: so none is asked", s.count(ASKS), asks);
+        s.rot(3, 3);
+        due("10: one is missing", s.play(2, 1) + s.play(3, 300) > 0 ? 1 : 0, 1);
+        due("10: joined again", s.joined(), 1);
+    }
+
     private static void playWrongly() {
         SnapshotPieces s = filled(2);
         due("10: no target", s.play(1, 1), NOT);
@@ -693,33 +764,31 @@ public final class PromisesTest {
         due("17: the target 0 is one", s.count(TARGET), 0);
     }
 
-    private static void refusalsChangeNothing() {
-        SnapshotPieces s = openedToFour(20);
-        long before = view(s);
-        s.leaf(64, 1);
-        s.giver(5, 0);
-        s.giver(0, 201);
-        s.target(21);
-        s.target(-1);
-        s.ask(1, 4, false);
-        s.ask(0, 1, false);
-        s.ask(0, 3, true);
-        s.ask(0, 128, false);
-        s.play(5, 0);
-        s.play(5, 301);
-        s.rot(64, 1);
-        s.rot(-1, 1);
-        due("BAD and NOT change nothing", view(s), before);
-    }
-
-    private static long view(SnapshotPieces s) {
-        long all = s.mine(1);
-        for (int what = 0; what < 9; what++) {
-            all = all * 31 + s.count(what);
+    private static void countAtTheBounds() {
+        SnapshotPieces s = filledUp();
+        due("17: the height", s.count(HEIGHT), 200);
+        for (int g = 0; g < 12; g++) {
+            s.giver(g == 0 ? HONEST : TURNED, 200);
         }
-        for (int k = 0; k < 4; k++) {
-            all = all * 31 + s.missing(k);
+        due("17: givers", s.count(GIVERS), 12);
+        s.target(200);
+        due("17: the target", s.count(TARGET), 200);
+        for (int g = 1; g < 12; g++) {
+            s.ask(g, 1, false);
         }
-        return all;
+        due("17: named", s.count(NAMED), 11);
+        for (int node = 1; node < 64; node++) {
+            s.ask(0, node, false);
+        }
+        due("17: known", s.count(KNOWN), 127);
+        due("17: missing", s.count(LACKS), 64);
+        due("17: none is held yet", s.count(FILLED), 0);
+        for (int node = 64; node < 128; node++) {
+            s.ask(0, node, false);
+        }
+        due("17: held", s.count(FILLED), 64);
+        due("17: none is missing", s.count(LACKS), 0);
+        due("17: asks", s.count(ASKS), 11 + 63 + 64);
+        due("17: bytes", s.count(BYTES), 11 * 16 + 63 * 16 + 64 * 8);
     }
 }
