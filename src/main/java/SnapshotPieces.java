@@ -552,7 +552,7 @@ public final class SnapshotPieces {
             }
         }
 
-        /** Every node is looked at: digests can meet by chance, so a node that fits may have one below that does not. */
+        /** Looks at every node: digests can meet by chance, so a node that fits may have one below that does not. */
         private void findLacks() {
             lackSize = 0;
             for (int n = Tree.ROOT; n < Tree.NODES; n++) {

@@ -46,9 +46,23 @@ public final class FaceTest {
         checks.due("class public and final", face.getModifiers(), Modifier.PUBLIC | Modifier.FINAL);
         privateNames.retainAll(publicNames);
         checks.due("private methods with a public one's name: " + privateNames, privateNames.size(), 0);
+        for (Class<?> inside : face.getDeclaredClasses()) {
+            int hidden = inside.getModifiers() & (Modifier.PUBLIC | Modifier.PROTECTED);
+            checks.due("can be seen: " + inside.getName(), hidden, 0);
+            checks.due("static: " + inside.getName(), Modifier.isStatic(inside.getModifiers()) ? 1 : 0, 1);
+            staticFieldsAreFinal(checks, inside);
+        }
+        staticFieldsAreFinal(checks, face);
         checks.due("BAD", SnapshotPieces.BAD, -1);
         checks.due("FULL", SnapshotPieces.FULL, -2);
         checks.due("NOT", SnapshotPieces.NOT, -3);
         checks.end();
+    }
+
+    private static void staticFieldsAreFinal(Checks checks, Class<?> one) {
+        for (Field f : one.getDeclaredFields()) {
+            boolean kept = !Modifier.isStatic(f.getModifiers()) || Modifier.isFinal(f.getModifiers());
+            checks.due("no static state: " + one.getName() + "." + f.getName(), kept ? 1 : 0, 1);
+        }
     }
 }

@@ -192,6 +192,11 @@ public final class PromisesTest extends Bench {
         s.leaf(9, 9);
         due("8: a new height does not move it", s.count(TARGET), 2);
         due("8: but can be followed to", s.target(4), 1);
+        s.ask(0, 1, false);
+        s.leaf(9, 10);
+        due("8: nor from the height that was the last", s.count(TARGET), 4);
+        due("8: and what is known stays", s.count(KNOWN), 3);
+        due("8: as does what comes", s.ask(0, s.missing(0), false), TAKEN);
     }
 
     private static void targetOfEmptyState() {
